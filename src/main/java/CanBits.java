@@ -164,7 +164,7 @@ public final class CanBits {
             int turned = flips[now];
             bus[now] = (byte) b;
             for (int k = 0; k < memberCount; k++) {
-                keep(k, members[k].see(b ^ (turned >>> k & 1), now));
+                keep(k, members[k].see(b ^ ((turned >>> k) & 1), now));
             }
             now++;
         }
@@ -243,7 +243,7 @@ public final class CanBits {
         needThing(i, errorCount);
         needWhat(what, 2);
         int packed = errors[i];
-        return what == 0 ? packed & 7 : what == 1 ? packed >> 3 & 31 : packed >> 8;
+        return what == 0 ? (packed & 7) : what == 1 ? ((packed >> 3) & 31) : (packed >> 8);
     }
 
     private void needNode(int node) {
@@ -297,7 +297,7 @@ public final class CanBits {
         if (event == DONE) {
             finish(node);
         } else if (event != NONE && errorCount < MOST_ERRORS) {
-            errors[errorCount++] = now << 8 | node << 3 | event;
+            errors[errorCount++] = (now << 8) | (node << 3) | event;
         }
     }
 
@@ -364,23 +364,23 @@ public final class CanBits {
         if (isLong) {
             long upper = identifier >> 18;
             long lower = identifier & 0x3FFFF;
-            head = (upper << 2 | 3) << 19 | lower << 1 | remote;
+            head = (((upper << 2) | 3) << 19) | (lower << 1) | remote;
         } else {
-            head = ((long) identifier << 1 | remote) << 1;
+            head = (((long) identifier << 1) | remote) << 1;
         }
         if (isFlexible) {
-            head = head << 4 | 8;
+            head = (head << 4) | 8;
         } else {
             head = head << (isLong ? 2 : 1);
         }
-        return (head << 4 | code) << LONGEST_HEAD - headLength(isLong, isFlexible);
+        return ((head << 4) | code) << (LONGEST_HEAD - headLength(isLong, isFlexible));
     }
 
     /** The count of stuff bits as it stands in a frame: three bits of which one changes at a time, and one more. */
     private static int countOf(int stuffBits) {
         int n = stuffBits & 7;
-        int three = n ^ n >> 1;
-        return three << 1 | Integer.bitCount(three) & 1;
+        int three = n ^ (n >> 1);
+        return (three << 1) | (Integer.bitCount(three) & 1);
     }
 
     /** The register of a check. */
@@ -391,7 +391,7 @@ public final class CanBits {
         private int value;
 
         Register(int width, int turn, int start) {
-            this.top = 1 << width - 1;
+            this.top = 1 << (width - 1);
             this.turn = turn;
             this.start = start;
         }
@@ -402,7 +402,7 @@ public final class CanBits {
 
         void move(int b) {
             int gone = (value & top) == 0 ? 0 : 1;
-            value = value << 1 & (top << 1) - 1;
+            value = (value << 1) & ((top << 1) - 1);
             if (gone != b) {
                 value ^= turn;
             }
@@ -483,12 +483,12 @@ public final class CanBits {
 
         void append(int b, boolean inArbitration) {
             if (rowLength < MOST_ROW) {
-                row[rowLength++] = (byte) (inArbitration ? b | ARBITRATION : b);
+                row[rowLength++] = (byte) (inArbitration ? (b | ARBITRATION) : b);
             }
         }
 
         int rowBit(int i) {
-            return i >= 0 && i < rowLength ? row[i] & 1 : 1;
+            return i >= 0 && i < rowLength ? (row[i] & 1) : 1;
         }
 
         boolean canLoseAt(int i) {
@@ -513,7 +513,7 @@ public final class CanBits {
             int headLength = headLength(isLong(frame.kind), isFlexible(frame.kind));
             int lastOfArbitration = isLong(frame.kind) ? 32 : 13;
             for (int i = 0; i < headLength; i++) {
-                writePlain(frame, (int) (frame.head >> LONGEST_HEAD - 1 - i) & 1, i <= lastOfArbitration);
+                writePlain(frame, (int) (frame.head >> (LONGEST_HEAD - 1 - i)) & 1, i <= lastOfArbitration);
             }
             for (int i = 0; i < frame.octetCount && i < MOST_OCTETS; i++) {
                 writeNumber(frame, frame.octets[i], 8);
@@ -538,7 +538,7 @@ public final class CanBits {
 
         private void writeNumber(Frame frame, int number, int width) {
             for (int i = width - 1; i >= 0; i--) {
-                writePlain(frame, number >> i & 1, false);
+                writePlain(frame, (number >> i) & 1, false);
             }
         }
 
@@ -564,15 +564,15 @@ public final class CanBits {
         private void writeFixed(Frame frame) {
             int count = countOf(stuffBits);
             for (int i = 3; i >= 0; i--) {
-                sums.addOther(count >> i & 1);
+                sums.addOther((count >> i) & 1);
             }
             int width = Sums.flexibleWidth(frame.octetCount);
-            int bits = count << width | sums.ofFlexible(frame.octetCount);
+            int bits = (count << width) | sums.ofFlexible(frame.octetCount);
             for (int i = 0; i < width + 4; i++) {
                 if (i % 4 == 0) {
                     frame.append(1 - last, false);
                 }
-                last = bits >> width + 3 - i & 1;
+                last = (bits >> (width + 3 - i)) & 1;
                 frame.append(last, false);
             }
         }
@@ -628,8 +628,11 @@ public final class CanBits {
         }
 
         int identifier() {
-            int upper = (int) (head >> headEnd - 12) & 0x7FF;
-            return isLong ? upper << 18 | (int) (head >> headEnd - 32) & 0x3FFFF : upper;
+            int upper = (int) (head >> (headEnd - 12)) & 0x7FF;
+            if (!isLong) {
+                return upper;
+            }
+            return (upper << 18) | ((int) (head >> (headEnd - 32)) & 0x3FFFF);
         }
 
         int kind() {
@@ -638,7 +641,7 @@ public final class CanBits {
                 return 2 + longer;
             }
             int remoteAt = isLong ? 32 : 12;
-            return (head >> headEnd - 1 - remoteAt & 1) == 1 ? 4 + longer : longer;
+            return ((head >> (headEnd - 1 - remoteAt)) & 1) == 1 ? 4 + longer : longer;
         }
 
         int code() {
@@ -684,7 +687,7 @@ public final class CanBits {
             } else if (i < bodyEnd) {
                 hearOctet(i - headEnd, b);
             } else {
-                seen = seen << 1 | b;
+                seen = (seen << 1) | b;
             }
             if (plainBits == plainEnd) {
                 endPlain();
@@ -693,7 +696,7 @@ public final class CanBits {
         }
 
         private void hearHead(int i, int b) {
-            head = head << 1 | b;
+            head = (head << 1) | b;
             if (i == 13) {
                 isLong = b == 1;
             }
@@ -711,7 +714,7 @@ public final class CanBits {
         private void hearOctet(int i, int b) {
             int k = i >> 3;
             if (k >= 0 && k < MOST_OCTETS) {
-                octets[k] = octets[k] << 1 & 255 | b;
+                octets[k] = ((octets[k] << 1) & 255) | b;
             }
         }
 
@@ -737,7 +740,7 @@ public final class CanBits {
             if (isFixed) {
                 return NONE;
             }
-            seen = seen << 1 | b;
+            seen = (seen << 1) | b;
             if (i < 5) {
                 sums.addOther(b);
                 return i == 4 ? endCount() : NONE;
@@ -852,7 +855,7 @@ public final class CanBits {
             if (state == SENDING && sending != null) {
                 return sending.rowBit(place);
             }
-            return state == FLAGGING || state == LISTENING && listener.acknowledges() ? 0 : 1;
+            return state == FLAGGING || (state == LISTENING && listener.acknowledges()) ? 0 : 1;
         }
 
         /** What the bit brings: an error, an overload, that a frame is done, or none of these. */
@@ -899,9 +902,9 @@ public final class CanBits {
             place = from;
         }
 
-        /** Before a 0 is seen: it may begin a frame, or win the arbitration against this node's own frame. */
+        /** Before a 0 is seen, which may begin a frame, or win the arbitration against this node's own one. */
         private void turnToListening() {
-            boolean begins = state == QUIET || state == PAUSING && count == 2 && first == null;
+            boolean begins = state == QUIET || (state == PAUSING && count == 2 && first == null);
             boolean loses = state == SENDING && sending != null && sending.canLoseAt(place);
             if (!begins && !loses) {
                 return;

@@ -33,7 +33,9 @@ public final class NodesTest {
         x.send(0, 5, 0, 1);
         x.octet(0, 0, 255);
         x.send(0, 6, 0, 1);
-        x.filter(1, 1, 1);
+        x.filter(1, 7, 6);
+        x.filter(2, 1, 1);
+        x.flip(2, 0);
         x.flip(2, 20);
         x.flip(1, 150);
         x.flip(0, 19999);
@@ -56,11 +58,36 @@ public final class NodesTest {
             Due.is("waiting(" + node + ")", 0, () -> x.waiting(node));
             Due.is("taken(" + node + ", NONE, 0)", 0, () -> x.taken(node, CanBits.NONE, 0));
         }
-        Due.is("send(0, 6, 0, 1)", 0, () -> x.send(0, 6, 0, 1));
-        Due.is("run(20000)", 1, () -> x.run(20000));
+        for (int i = 0; i < 3; i++) {
+            int node = i;
+            Due.fails("taken(" + node + ", 0, 0)", IndexOutOfBoundsException.class, () -> x.taken(node, 0, 0));
+            Due.fails("takenOctet(" + node + ", 0, 0)", IndexOutOfBoundsException.class,
+                    () -> x.takenOctet(node, 0, 0));
+        }
+        Due.is("send(0, 5, 0, 1)", 0, () -> x.send(0, 5, 0, 1));
+        x.run(1);
+        Due.is("state(2), the flip at 0 being gone", 2, () -> x.state(2));
+        Due.is("run(19999)", 1, () -> x.run(19999));
         Due.is("error(NONE, 0), flips being gone", 0, () -> x.error(CanBits.NONE, 0));
+        Due.is("state(0), the flip at 19999 being gone", 0, () -> x.state(0));
         Due.is("taken(1, NONE, 0), the filter being gone", 1, () -> x.taken(1, CanBits.NONE, 0));
+        Due.is("taken(2, NONE, 0), the filter being gone", 1, () -> x.taken(2, CanBits.NONE, 0));
         Due.is("takenOctet(1, 0, 0), octets being gone", 0, () -> x.takenOctet(1, 0, 0));
+    }
+
+    private static void takesAnew(CanBits x) {
+        for (int i = 0; i < 60; i++) {
+            x.nodes(2);
+            x.send(0, 5, 2, 15);
+            x.octet(0, 63, i);
+            x.run(1000);
+            Due.is("taken(1, NONE, 0) of each beginning", 1, () -> x.taken(1, CanBits.NONE, 0));
+            Due.is("takenOctet(1, 0, 63) of each beginning", i, octetOf(x));
+        }
+    }
+
+    private static Due.Call octetOf(CanBits x) {
+        return () -> x.takenOctet(1, 0, 63);
     }
 
     private static void forgetsInTheMiddle(CanBits x) {
@@ -82,6 +109,7 @@ public final class NodesTest {
         counts(x);
         noNodes(x);
         beginsAnew(x);
+        takesAnew(x);
         forgetsInTheMiddle(x);
         Due.end();
     }
