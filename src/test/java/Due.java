@@ -9,8 +9,20 @@ final class Due {
     }
 
     private static int wrong = 0;
+    private static String about = "";
 
     private Due() {
+    }
+
+    /** A sentence of the document, and the test that would fail if it did not hold. */
+    static void sentence(String words, Act test) {
+        about = "\"" + words + "\": ";
+        int before = wrong;
+        test.go();
+        about = "";
+        if (wrong != before) {
+            System.out.println("does not hold: " + words);
+        }
     }
 
     static void is(String call, long want, Call made) {
@@ -33,7 +45,7 @@ final class Due {
         if (!want.equals(got)) {
             wrong++;
             if (wrong <= 50) {
-                System.out.println(call + " answered " + got + ", due is " + want);
+                System.out.println(about + call + " answered " + got + ", due is " + want);
             }
         }
     }
@@ -42,8 +54,14 @@ final class Due {
         try {
             return Long.toString(made.answer());
         } catch (RuntimeException e) {
-            return "throws." + e.getClass().getSimpleName();
+            return (isOfTheMachine(e) ? "the machine throws." : "throws.") + e.getClass().getSimpleName();
         }
+    }
+
+    /** The class throws what is due itself; the machine's own exceptions of the same names tell the number. */
+    private static boolean isOfTheMachine(RuntimeException e) {
+        String text = e.getMessage();
+        return text != null && (text.startsWith("Index ") || text.matches("-?[0-9]+"));
     }
 
     static Call valueOf(Act made) {

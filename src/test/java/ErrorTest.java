@@ -216,8 +216,8 @@ public final class ErrorTest {
         Due.is("state(1)", 1, () -> x.state(1));
     }
 
-    /** The most errors that there can be: all nodes see 0 right behind each flag. */
-    private static void most() {
+    /** Very many errors without a single flip: senders that differ behind the arbitration, again and again. */
+    private static void veryMany() {
         CanBits x = new CanBits();
         x.nodes(32);
         for (int i = 0; i < 32; i++) {
@@ -246,7 +246,7 @@ public final class ErrorTest {
         order();
         overloads();
         behindTheArbitration();
-        most();
+        veryMany();
         Due.end();
     }
 }

@@ -108,11 +108,11 @@ public final class TakenTest {
         }
     }
 
-    /** The most that a node can take: the shortest frames, as close as they can be. */
+    /** The most that senders alone can give a node to take: the shortest frames, a whole pause between them. */
     private static void most() {
         CanBits x = new CanBits();
         for (int i = 0; i < 200; i++) {
-            x.send(0, 1365, 4, 5);
+            x.send(0, 1300, 4, 3);
         }
         int length = x.stuffed(0);
         Due.is("run(20000)", 200, () -> x.run(20000));
